@@ -260,6 +260,7 @@ public final class PromisesTest {
         yes("its own may be told again", x.pieces(0, 2));
         yes("what it gave up", x.pieces(1, 5));
         due("both", 7, x.told(0, 3));
+        no("twice in the body, the first one's", x.pieces(1, 7));
         yes("another body's don't matter", x.pieces(2, 7));
     }
 
@@ -422,6 +423,23 @@ public final class PromisesTest {
         due("a tooth that only the missing one's file knows", 0, x.shut(0, 0));
         x.tissue(2, 0, 1, 1, 1);
         due("a parent's sheet that the body lacks", 0, x.shut(0, 0));
+        for (int t = 0; t < 8; t++) {
+            NamedAgain y = house(1, 1);
+            y.tooth(0, 0, t, 3);
+            y.tooth(1, 0, t, 2);
+            due("filled again, tooth " + t, 3, y.shut(0, 0));
+        }
+        for (int s = 0; s < 3; s++) {
+            NamedAgain y = house(1, 2);
+            y.tissue(0, 0, s, 1, 2);
+            y.tissue(1, 0, s, 1, 3);
+            y.tissue(1, 1, s, 1, 2);
+            due("unlike sheet " + s, 4, y.shut(0, 0));
+            due("unlike sheet to join " + s, 5, y.unfit(0, 1));
+            y.tissue(0, 0, s, 0, 0);
+            y.tissue(2, 0, s, 2, 2);
+            due("parent's sheet " + s, 5, y.shut(0, 0));
+        }
     }
 
     private static void points() {
@@ -510,6 +528,12 @@ public final class PromisesTest {
             due("body " + i, i, x.pairing(i));
             due("margin " + i, 0, x.margin(i));
         }
+        NamedAgain w = house(1, 1);
+        w.tooth(0, 0, 0, 1);
+        w.tooth(1, 0, 0, 1);
+        due("a point is above 0", 1, w.pairing(NONE));
+        due("a pair of one point", 0, w.pairing(0));
+        due("its margin", 1, w.margin(0));
         NamedAgain y = house(2, 3);
         alike(y, 0, 1, 0, 7);
         alike(y, 1, 0, 0, 7);
@@ -768,6 +792,8 @@ public final class PromisesTest {
     private static void fault() {
         promise = "23 fault";
         faultOf("odds 2;", 0);
+        faultOf("feed 2;", 0);
+        faultOf("tooth 1 as 2;", 8);
         faultOf("  odds 2;", 2);
         faultOf("need", 4);
         faultOf("need  \n", 7);
